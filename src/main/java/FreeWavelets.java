@@ -324,6 +324,7 @@ public final class FreeWavelets {
             }
         }
 
+        // Each part has a sample of its own, so there are never more parts than samples.
         private void spread(int first) {
             int end = join(first, 0);
             for (int next = 0; next < end && next < SAMPLES; next++) {
@@ -467,6 +468,7 @@ public final class FreeWavelets {
             stale = false;
         }
 
+        // Waves are 0 again, so that nothing of an earlier reading is left.
         void begin(int width, int height, int newPlanes) {
             shape.resize(width, height);
             Arrays.fill(waves, 0);
