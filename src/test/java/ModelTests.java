@@ -138,7 +138,8 @@ public final class ModelTests {
     }
 
     private void toldAll() {
-        for (int what = 0; what <= 13; what++) {
+        // What an object answers behind its 512th call is free.
+        for (int what = 0; what <= 13 && calls < 512; what++) {
             told(what);
         }
     }

@@ -1,0 +1,16 @@
+import java.io.IOException;
+
+/** Each sentence of the document that names an edge, with a test of its own. */
+public final class EdgeTests {
+    public static void main(String[] args) throws IOException {
+        Doc.open();
+        PictureEdges.all();
+        StreamEdges.all();
+        ReadingEdges.all();
+        RefusalEdges.all();
+        MakingEdges.all();
+        TakingEdges.all();
+        Doc.end();
+        Check.end();
+    }
+}
