@@ -232,6 +232,10 @@ final class TakingEdges {
         Check.due("128 is kept", 0x20, w.alter(3, 128));
         Check.due("128 was kept", 128, w.alter(3, 127));
         Check.due("127 was kept", 127, w.alter(3, 0));
+        FreeWavelets full = RefusalEdges.full();
+        int last = full.alter(2399, 88);
+        Check.due("the last of 2,400", 88, full.alter(2399, last));
+        Check.due("the last of 2,400 again", last, full.alter(2399, 0));
     }
 
     private static void decodeUpTo() {
@@ -274,12 +278,12 @@ final class TakingEdges {
     private static void decodeOfNothing() {
         Doc.says(DECODE, "NONE if it is NOTHING (nothing is READ then).");
         String[] nothings = {"", "0000", "0000 0000 10101 010", "0001 0000 00000 010 1 010",
-            "0000 0000 00000 0000000000000000000", "0000 0000 00000 011"};
+            "0000 0000 00000 00000000000000000 100000000000000001", "0000 0000 00000 011"};
         for (String bits : nothings) {
-            FreeWavelets w = Check.fedWith(STREAM);
+            FreeWavelets w = Check.fedWith(STREAM + "0000" + "0".repeat(16));
             Check.due("something", 28, w.decode(Check.ALL));
-            String filled = bits.replace(" ", "") + "00000000".repeat(5);
-            for (int i = 0; i < 4; i++) {
+            String filled = bits.replace(" ", "") + "0".repeat(48);
+            for (int i = 0; i < 6; i++) {
                 w.alter(i, Integer.parseInt(filled.substring(8 * i, 8 * i + 8), 2));
             }
             Check.due("nothing", FreeWavelets.NONE, w.decode(bits.replace(" ", "").length()));
@@ -287,7 +291,7 @@ final class TakingEdges {
             for (int what = 8; what <= 12; what++) {
                 Check.due("told " + what, 0, w.told(what));
             }
-            Check.due("what was fed stays", 4, w.told(7));
+            Check.due("what was fed stays", 6, w.told(7));
         }
         FreeWavelets again = Check.fedWith(STREAM);
         again.decode(3);
