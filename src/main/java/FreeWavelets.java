@@ -317,14 +317,13 @@ public final class FreeWavelets {
             for (int y = 0; y < height; y++) {
                 for (int x = 0; x < width; x++) {
                     int i = sampleOf(x, y);
-                    if (inside[i] && partOf[i] == NONE) {
+                    if (inside[i] && partOf[i] == NONE && parts < SAMPLES) {
                         spread(i);
                     }
                 }
             }
         }
 
-        // Each part has a sample of its own, so there are never more parts than samples.
         private void spread(int first) {
             int end = join(first, 0);
             for (int next = 0; next < end && next < SAMPLES; next++) {

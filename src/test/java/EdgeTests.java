@@ -1,9 +1,10 @@
 import java.io.IOException;
 
-/** Each sentence of the document that names an edge, with a test of its own. */
+/** Each sentence of the document, with its edges, and a test of its own. */
 public final class EdgeTests {
     public static void main(String[] args) throws IOException {
         Doc.open();
+        FaceEdges.all();
         PictureEdges.all();
         StreamEdges.all();
         ReadingEdges.all();

@@ -9,7 +9,6 @@ final class PictureEdges {
 
     static void all() {
         Doc.each(
-            PictureEdges::calls,
             PictureEdges::sides,
             PictureEdges::values,
             PictureEdges::insideAtFirst,
@@ -27,23 +26,6 @@ final class PictureEdges {
             PictureEdges::placesByTheStep,
             PictureEdges::columnsBehindRows,
             PictureEdges::whatStands);
-    }
-
-    private static void calls() {
-        Doc.says("What it is", "An object is used for at most 512 calls after it has been made;");
-        FreeWavelets fed = new FreeWavelets(1, 1);
-        for (int i = 1; i < 512; i++) {
-            Check.due("call " + i, i, fed.feed(i & 255));
-        }
-        Check.due("call 512, told(7)", 511, fed.told(7));
-        FreeWavelets drawn = new FreeWavelets(16, 16);
-        for (int i = 0; i < 256; i++) {
-            Check.due("mask " + i, 1, drawn.mask(i % 16, i / 16, 1, true));
-        }
-        for (int i = 0; i < 255; i++) {
-            Check.due("put " + i, 1, drawn.put(i % 16, i / 16, 1, 9));
-        }
-        Check.due("call 512, told(3)", 1, drawn.told(3));
     }
 
     private static void sides() {

@@ -8,64 +8,19 @@ import java.nio.file.Files;
 import java.nio.file.Path;
 import java.util.ArrayList;
 import java.util.Arrays;
-import java.util.Collections;
 import java.util.HashSet;
 import java.util.List;
 import java.util.Set;
 
-/** The document's face, and the rules of LANGUAGE.md that can be seen from outside or in the text. */
-public final class FaceTests {
-    private static final String[] FACE = {
-        "public static final int FreeWavelets.NONE",
-        "public FreeWavelets(int,int)",
-        "public int FreeWavelets.mask(int,int,int,boolean)"
-            + " throws java.lang.IndexOutOfBoundsException,java.lang.IllegalArgumentException",
-        "public int FreeWavelets.put(int,int,int,int)"
-            + " throws java.lang.IndexOutOfBoundsException,java.lang.IllegalArgumentException",
-        "public int FreeWavelets.wave(int,int) throws java.lang.IndexOutOfBoundsException",
-        "public int FreeWavelets.encode(int) throws java.lang.IllegalArgumentException",
-        "public int FreeWavelets.byteAt(int) throws java.lang.IndexOutOfBoundsException",
-        "public int FreeWavelets.zeros(int) throws java.lang.IllegalArgumentException",
-        "public long FreeWavelets.error(int,int)"
-            + " throws java.lang.IllegalArgumentException,java.lang.IndexOutOfBoundsException",
-        "public int FreeWavelets.feed(int)"
-            + " throws java.lang.IllegalArgumentException,java.lang.UnsupportedOperationException",
-        "public int FreeWavelets.pass(int,int) throws java.lang.IndexOutOfBoundsException,"
-            + "java.lang.IllegalArgumentException,java.lang.UnsupportedOperationException",
-        "public int FreeWavelets.alter(int,int)"
-            + " throws java.lang.IndexOutOfBoundsException,java.lang.IllegalArgumentException",
-        "public int FreeWavelets.decode(int) throws java.lang.IllegalArgumentException",
-        "public int FreeWavelets.at(int,int)"
-            + " throws java.lang.IllegalStateException,java.lang.IndexOutOfBoundsException",
-        "public int FreeWavelets.part(int,int) throws java.lang.IndexOutOfBoundsException",
-        "public int FreeWavelets.told(int)",
-        "public void FreeWavelets.clear()",
-    };
+/** The rules of LANGUAGE.md that can be seen from outside or in the text. FaceEdges has the face itself. */
+public final class LanguageTests {
     private static final String[] REFUSED = {"->", "::", "catch", "finally", "synchronized", "assert ", "Exact(",
         "package ", "System.out", "equals(", "hashCode", "toString", "instanceof"};
 
     public static void main(String[] args) throws IOException {
-        face();
         classesInside();
         source(Files.readAllLines(Path.of("src/main/java/FreeWavelets.java")));
         Check.end();
-    }
-
-    private static void face() {
-        Class<?> c = FreeWavelets.class;
-        Check.due("public and final", Modifier.PUBLIC | Modifier.FINAL, c.getModifiers());
-        List<String> got = new ArrayList<>();
-        for (Member member : members(c)) {
-            if (!Modifier.isPrivate(member.getModifiers())) {
-                got.add(text(member));
-            }
-        }
-        List<String> want = new ArrayList<>(Arrays.asList(FACE));
-        Collections.sort(got);
-        Collections.sort(want);
-        if (!got.equals(want)) {
-            Check.fail("the face is " + got + ", due is " + want);
-        }
     }
 
     private static List<Member> members(Class<?> c) {
